@@ -63,6 +63,20 @@ public final class EventsBookTest {
         x.event(-1, 0);
         x.event(1, 2);
         due.is("nobody owes 2", x.after(0), 13);
+        DebtRings all = Setups.people(6);
+        for (int i = 0; i < 6; i++) {
+            for (int j = 0; j < 6; j++) {
+                all.owe(i, j, 1);
+            }
+        }
+        for (int what = 0; what <= 1; what++) {
+            for (int p = 0; p < 6; p++) {
+                all.event(-1, 0);
+                all.event(what, p);
+                due.is("five are no more", all.after(0), 25);
+                due.is("debts", all.after(1), 25);
+            }
+        }
     }
 
     private static void afterCuts() {

@@ -128,6 +128,7 @@ public final class PaymentsTest {
         willingAre(y, new int[][] {{0, 1, 3}, {0, 3, 2}, {2, 3, 3}});
         due.is("told 8", y.told(8), 2);
         due.is("left", y.told(11), 0);
+        willingAre(Setups.owing(3, 2, 0, 4, 1, 0, 3), new int[][] {{1, 0, 3}, {2, 0, 4}});
     }
 
     private static void willingAre(DebtRings x, int[][] rows) {
@@ -197,6 +198,19 @@ public final class PaymentsTest {
         x.consent(1, 5, false);
         due.is("told 9", x.told(9), 2);
         due.is("told 10", x.told(10), 4);
+        // 1 pays 0, 3 pays 2.
+        DebtRings y = Setups.owing(4, 1, 0, 3, 3, 2, 4);
+        due.is("told 5", y.told(5), 7);
+        due.is("told 9", y.told(9), 2);
+        y.consent(0, 1, false);
+        due.is("the payee need not consent", y.told(9), 2);
+        y.consent(3, 2, false);
+        due.is("told 9", y.told(9), 1);
+        y.consent(1, 0, false);
+        due.is("told 9", y.told(9), 0);
+        // The willing pay crosswise then: 1 pays 2 and 3 pays 0, 3 each, and 2 has 1 left.
+        due.is("told 10", y.told(10), 2);
+        due.is("told 11", y.told(11), 1);
     }
 
     private static void without() {

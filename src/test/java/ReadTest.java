@@ -57,6 +57,9 @@ public final class ReadTest {
         due.is("trail, people", x.trail(0, 1), 3);
         due.is("trail, least", x.trail(0, 2), 5);
         due.is("told 3", x.told(3), 1);
+        DebtRings rings = Setups.owing(4, 0, 1, 5, 1, 0, 5, 2, 3, 6, 3, 2, 6);
+        due.is("one cut a clause", Setups.readAll(rings, "c0"), 1);
+        due.is("one ring stays", rings.told(4), 12);
         DebtRings twelve = new DebtRings();
         due.is("twelve clauses", Setups.readAll(twelve, "p;p;p;o011;o0299;o121;o201;n01;y01;n02;c0;o1020"), 12);
         due.is("the last one", twelve.of(1, 0, 0), 20);

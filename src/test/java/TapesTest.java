@@ -196,6 +196,13 @@ public final class TapesTest {
         due.is("no place", x.item(5, 0, 1), PLACE);
         due.is("n 60", x.tape(5, 2, 60), 1);
         due.is("all 0 again", x.peek(5, 59), 0);
+        for (int i = 0; i < 60; i++) {
+            x.item(5, i, i + 1);
+        }
+        x.tape(5, 3, 60);
+        for (int i = 0; i < 60; i++) {
+            due.is("all 0 again, " + i, x.peek(5, i), 0);
+        }
         x.item(5, 3, 9);
         due.is("refused", x.tape(5, 2, -1), SIZE);
         due.is("nothing changed", x.peek(5, 3), 9);
@@ -254,6 +261,7 @@ public final class TapesTest {
         due.is("place 2", x.peek(0, 2), Long.MIN_VALUE);
         x.tape(0, -1, 0);
         due.is("nothing there any more", x.peek(0, 1), Long.MIN_VALUE);
+        due.is("not even at 0", x.peek(0, 0), Long.MIN_VALUE);
     }
 
     private static void shift() {
