@@ -21,6 +21,8 @@ public final class DebtRings {
     private static final int TAPES = 6, MOST_ITEMS = 60;
 
     private static final int FIRST = 0, HIGH = 1, DEEP = 2, AGREED = 3;
+    // No RULE that a call may name: it passes over no RING, so that all are counted.
+    private static final int EVERY = 4;
     private static final int OWES_NOBODY = 0, OWED_BY_NOBODY = 1, IS_CUT = 2, IS_SETTLED = 3;
     private static final int NO_SORT = -1, BYTES = 0, SHORTS = 1, INTS = 2, LONGS = 3, BOOLEANS = 4;
 
@@ -216,7 +218,7 @@ public final class DebtRings {
             case 1:
                 return now.debts.size();
             case 2:
-                rings.search(now.debts, now.consents, FIRST);
+                rings.search(now.debts, now.consents, EVERY);
                 return rings.found();
             case 3:
                 return now.trail.size();
@@ -855,7 +857,7 @@ public final class DebtRings {
             least = 0;
         }
 
-        /** How many RINGS were met: all that there are, unless the RULE is AGREED. */
+        /** How many RINGS were taken, each instead of the one ahead; by EVERY all that there are. */
         int found() {
             return found;
         }
@@ -922,9 +924,12 @@ public final class DebtRings {
             return isCell(i, j) ? steps[i * MOST_PEOPLE + j] : 0;
         }
 
-        /** Goes on only to PEOPLE above the first one, as a RING is told from its least on. */
+        /**
+         * Goes on only to PEOPLE above the first one, as a RING is told from its least on, and
+         * only as long as it can be taken still: what is lowest never rises on the way.
+         */
         private void extend(int people, int depth, int lowest) {
-            if (depth < 1 || depth > MOST_PEOPLE) {
+            if (depth < 1 || depth > MOST_PEOPLE || !isBetter(people, lowest)) {
                 return;
             }
             int last = path[depth - 1];
@@ -951,13 +956,10 @@ public final class DebtRings {
         }
 
         private void meet(int people, int lowest) {
-            if (lowest <= 0) {
+            if (lowest <= 0 || !isBetter(people, lowest)) {
                 return;
             }
             found++;
-            if (!isBetter(people, lowest)) {
-                return;
-            }
             size = people;
             least = lowest;
             for (int k = 0; k < MOST_PEOPLE; k++) {
@@ -965,13 +967,15 @@ public final class DebtRings {
             }
         }
 
-        /** Never for a RING that is as good as one met ahead of it: of several the first is taken. */
+        /** Not if it is as good as the one taken ahead of it: of several the first is taken. */
         private boolean isBetter(int people, int lowest) {
             switch (rule) {
                 case HIGH:
                     return lowest > least;
                 case DEEP:
                     return lowest * people > least * size;
+                case EVERY:
+                    return true;
                 default:
                     return size == 0;
             }
