@@ -51,6 +51,7 @@ public final class PaymentsTest {
 
     /** Balances that can be parted into as many groups in several ways. */
     private static void groupsOfSeveralWays() {
+        due.promise(15);
         // 0 and 1 have -5, 2 and 3 have 5: the least one goes with the least bits.
         groupsAre(Setups.owing(4, 0, 3, 5, 1, 2, 5), 5, 10);
         // 0 has 5, 1 has -5, 2 has 5, 3 has -5.
@@ -64,13 +65,7 @@ public final class PaymentsTest {
     }
 
     private static void groupsAre(DebtRings x, int... groups) {
-        due.promise(15);
-        for (int k = 0; k < groups.length; k++) {
-            due.is("group " + k, x.group(k), groups[k]);
-        }
-        due.is("group behind the last", x.group(groups.length), -1);
-        due.is("group -1", x.group(-1), -1);
-        due.is("told 7", x.told(7), groups.length);
+        Setups.groupsAre(due, x, groups);
     }
 
     private static void payment() {
@@ -93,13 +88,7 @@ public final class PaymentsTest {
     }
 
     private static void paymentsAre(DebtRings x, int[][] rows) {
-        for (int k = 0; k < rows.length; k++) {
-            for (int what = 0; what < 3; what++) {
-                due.is("payment " + k + " " + what, x.payment(k, what), rows[k][what]);
-            }
-        }
-        due.is("payment behind the last", x.payment(rows.length, 0), -1);
-        due.is("told 8", x.told(8), rows.length);
+        Setups.paymentsAre(due, x, rows);
     }
 
     private static void willing() {
@@ -132,13 +121,7 @@ public final class PaymentsTest {
     }
 
     private static void willingAre(DebtRings x, int[][] rows) {
-        for (int k = 0; k < rows.length; k++) {
-            for (int what = 0; what < 3; what++) {
-                due.is("willing " + k + " " + what, x.willing(k, what), rows[k][what]);
-            }
-        }
-        due.is("willing behind the last", x.willing(rows.length, 0), -1);
-        due.is("told 10", x.told(10), rows.length);
+        Setups.willingAre(due, x, rows);
     }
 
     private static void settle() {

@@ -150,14 +150,7 @@ public final class RingsTest {
     }
 
     private static void ringIs(DebtRings x, int rule, int least, int... people) {
-        due.is("ring " + rule + " -1", x.ring(rule, -1), people.length);
-        due.is("ring " + rule + " -2", x.ring(rule, -2), least);
-        for (int k = 0; k < people.length; k++) {
-            due.is("ring " + rule + " " + k, x.ring(rule, k), people[k]);
-        }
-        due.is("ring " + rule + ", behind the last", x.ring(rule, people.length), -1);
-        due.is("ring " + rule + " -3", x.ring(rule, -3), -1);
-        due.is("ring, far off", x.ring(rule, Integer.MAX_VALUE), -1);
+        Setups.ringIs(due, x, rule, least, people);
     }
 
     private static void trail() {
