@@ -78,6 +78,10 @@ public final class EdgesOfPaymentsTest {
     private static void asManyGroupsAsCanBe() {
         due.sentence(0, "GROUPS: OPEN PEOPLE, parted into as many GROUPS as can be");
         Setups.groupsAre(due, Setups.people(6));
+        DebtRings x = Setups.owing(2, 0, 1, 5);
+        Setups.groupsAre(due, x, 3);
+        x.owe(1, 0, 5);
+        Setups.groupsAre(due, x);
         // 0 .. 2 are nothing together, but pairs are more groups: -1 -2 3 1 2 -3.
         Setups.groupsAre(due, Setups.owing(6, 0, 2, 1, 1, 2, 2, 5, 3, 1, 5, 4, 2), 9, 18, 36);
         // A pair and four that can't be parted: -9 9 -1 -2 -4 7.
@@ -154,6 +158,9 @@ public final class EdgesOfPaymentsTest {
         due.sentence(0, "TOTAL: all DEBTS together. NET: all BALANCES above 0 together");
         due.is("nobody, TOTAL", new DebtRings().told(4), 0);
         due.is("nobody, NET", new DebtRings().told(5), 0);
+        for (int p = 0; p < 6; p++) {
+            due.is("one is owed, NET", Setups.owing(6, (p + 1) % 6, p, 7).told(5), 7);
+        }
         DebtRings all = Setups.allOwing(999);
         due.is("all that can be, TOTAL", all.told(4), 29970);
         due.is("all are even, NET", all.told(5), 0);
@@ -199,8 +206,8 @@ public final class EdgesOfPaymentsTest {
     }
 
     private static void leastOfTheWilling() {
-        due.sentence(0, "of these two that of least payer, of several of least payee; the lesser of what both have left "
-            + "is paid");
+        due.sentence(0, "of these two that of least payer, of several of least payee; the lesser of what both have "
+            + "left is paid");
         // -5 -3 3 5: not by groups.
         DebtRings x = Setups.owing(4, 0, 3, 5, 1, 2, 3);
         Setups.willingAre(due, x, new int[] {0, 2, 3}, new int[] {0, 3, 2}, new int[] {1, 3, 3});

@@ -12,45 +12,48 @@ public final class UnchangedTest {
     private static final int NONE = -1, BAD = -2, STATE = -3, FULL = -4;
     private static final int NOTHING = -11, CAST = -12, PLACE = -13, SIZE = -14;
     private static final int FAR = Integer.MAX_VALUE, BELOW = Integer.MIN_VALUE;
+    private static final int PARTS = 9;
     private static final Due due = new Due("UnchangedTest");
 
-    /** Objects made the same way, and all that can be asked of one that is not called. */
+    /** Objects made the same way, and all that can be asked of those that are not called. */
     private static final class Same {
         private final String name;
         private final Supplier<DebtRings> maker;
-        private final List<Long> uncalled;
+        private final List<List<Long>> uncalled = new ArrayList<>();
 
         Same(String name, Supplier<DebtRings> maker) {
             this.name = name;
             this.maker = maker;
-            this.uncalled = allOf(maker.get());
+            for (int part = 0; part < PARTS; part++) {
+                uncalled.add(partOf(part, maker.get()));
+            }
         }
 
         void behind(String call, long answer, ToLongFunction<DebtRings> called) {
-            DebtRings x = maker.get();
-            due.is(name + ", " + call, called.applyAsLong(x), answer);
-            isUnchanged(call, x);
+            due.is(name + ", " + call, called.applyAsLong(maker.get()), answer);
+            asked(call, called);
         }
 
+        /** Each part is asked of an object of its own, so that no other question comes between. */
         void asked(String call, ToLongFunction<DebtRings> called) {
-            DebtRings x = maker.get();
-            called.applyAsLong(x);
-            isUnchanged(call, x);
-        }
-
-        private void isUnchanged(String call, DebtRings x) {
-            List<Long> now = allOf(x);
-            int same = 0;
-            while (same < now.size() && now.get(same).equals(uncalled.get(same))) {
-                same++;
+            for (int part = 0; part < PARTS; part++) {
+                DebtRings x = maker.get();
+                called.applyAsLong(x);
+                List<Long> now = partOf(part, x);
+                int same = 0;
+                while (same < now.size() && now.get(same).equals(uncalled.get(part).get(same))) {
+                    same++;
+                }
+                due.is(name + ", answers of part " + part + " that are the same behind " + call, same, now.size());
             }
-            due.is(name + ", answers that are the same behind " + call, same, uncalled.size());
         }
     }
 
     private static final Same RICH = new Same("rich", UnchangedTest::rich);
     private static final Same ALL_FULL = new Same("full", UnchangedTest::full);
+    private static final Same NO_TEXT = new Same("no text", UnchangedTest::noText);
     private static final Same HEAVY = new Same("heavy", UnchangedTest::heavy);
+    private static final Same NO_IMAGE = new Same("no image", UnchangedTest::noImage);
     private static final Same LONG_TEXT = new Same("long text", UnchangedTest::longText);
     private static final Same NEW = new Same("new", DebtRings::new);
 
@@ -99,7 +102,7 @@ public final class UnchangedTest {
     }
 
     /** All that can be full, but for the text; no image, no tapes. */
-    private static DebtRings full() {
+    private static DebtRings noText() {
         DebtRings x = Setups.trailOf(40);
         for (int p = 2; p < 6; p++) {
             x.person();
@@ -116,8 +119,44 @@ public final class UnchangedTest {
         return x;
     }
 
+    /** The same with a text, tapes, and an image that is otherwise. */
+    private static DebtRings full() {
+        DebtRings x = noText();
+        x.image();
+        x.consent(2, 4, false);
+        x.pay(1, 0, 1);
+        Setups.feedAll(x, "n20;y24");
+        for (int tape = 0; tape < 6; tape++) {
+            x.tape(tape, 3, 3);
+            x.item(tape, 1, 77 + tape);
+        }
+        return x;
+    }
+
+    /** A payment of 1000, and an image, a text and tapes. */
     private static DebtRings heavy() {
-        return Setups.owing(3, 0, 2, 1, 0, 1, 999, 2, 1, 1);
+        DebtRings x = Setups.owing(3, 0, 2, 1, 0, 1, 999);
+        x.image();
+        x.owe(2, 1, 1);
+        x.see(0, 1, 9);
+        x.event(2, 0);
+        x.book(0, 1, 9);
+        Setups.feedAll(x, "p");
+        x.tape(0, 3, 1);
+        x.tape(1, 0, 2);
+        return x;
+    }
+
+    private static DebtRings noImage() {
+        DebtRings x = Setups.owing(3, 0, 2, 5);
+        x.cut(0, 1);
+        x.see(0, 1, 9);
+        x.event(2, 0);
+        x.book(0, 1, 9);
+        Setups.feedAll(x, "p");
+        x.tape(0, 3, 1);
+        x.tape(1, 0, 2);
+        return x;
     }
 
     private static DebtRings longText() {
@@ -130,26 +169,27 @@ public final class UnchangedTest {
 
     // ---- all that can be asked
 
-    /** Some 300 calls, so that with those that make it an object stays below 512 of them. */
-    private static List<Long> allOf(DebtRings x) {
+    private static List<Long> partOf(int part, DebtRings x) {
         List<Long> all = new ArrayList<>();
-        addTold(x, all);
-        addPairs(x, all);
-        addRings(x, all);
-        addPayments(x, all);
-        addToldByHand(x, all);
-        for (int tape = 0; tape < 6; tape++) {
-            for (int i = 0; i < 4; i++) {
-                all.add(x.peek(tape, i));
-            }
+        switch (part) {
+            case 0: addTold(x, all); break;
+            case 1: addPairs(x, all); break;
+            case 2: addRings(x, all); break;
+            case 3: addPayments(x, all); break;
+            case 4: addToldByHand(x, all); break;
+            case 5: addTapes(x, all); break;
+            case 6: addJudged(x, all); break;
+            case 7:
+                // What THE TEXT and THE IMAGE hold is seen when they are used.
+                all.add((long) x.read());
+                addTold(x, all);
+                break;
+            default:
+                all.add((long) x.undo());
+                addTold(x, all);
+                addPairs(x, all);
+                break;
         }
-        all.add((long) x.judge(0, 0));
-        // What THE TEXT and THE IMAGE hold is seen when they are used.
-        all.add((long) x.read());
-        addTold(x, all);
-        all.add((long) x.undo());
-        addTold(x, all);
-        addPairs(x, all);
         return all;
     }
 
@@ -207,6 +247,21 @@ public final class UnchangedTest {
         }
     }
 
+    private static void addTapes(DebtRings x, List<Long> all) {
+        for (int tape = 0; tape < 6; tape++) {
+            for (int i = 0; i < 4; i++) {
+                all.add(x.peek(tape, i));
+            }
+        }
+    }
+
+    private static void addJudged(DebtRings x, List<Long> all) {
+        for (int tape = 0; tape < 6; tape++) {
+            all.add((long) x.judge(tape, 0));
+            all.add((long) x.judge(tape, 1));
+        }
+    }
+
     // ---- refusals
 
     private static void peopleAndDebts() {
@@ -230,6 +285,7 @@ public final class UnchangedTest {
         RICH.behind("pay too much", STATE, x -> x.pay(0, 1, 6));
         RICH.behind("pay nothing owed", STATE, x -> x.pay(0, 5, 1));
         ALL_FULL.behind("owe above 999", FULL, x -> x.owe(0, 1, 1));
+        HEAVY.behind("owe above 999", FULL, x -> x.owe(0, 1, 99));
         RICH.behind("consent, as it is", 1, x -> x.consent(0, 2, true));
         RICH.behind("consent not, as it is", 0, x -> x.consent(0, 1, false));
         NEW.behind("owe", NONE, x -> x.owe(0, 1, 1));
@@ -241,10 +297,10 @@ public final class UnchangedTest {
         RICH.behind("feed 128", BAD, x -> x.feed(128));
         LONG_TEXT.behind("feed", FULL, x -> x.feed('p'));
         LONG_TEXT.behind("feed 128", BAD, x -> x.feed(128));
-        ALL_FULL.behind("an empty text", -10, x -> x.read());
-        ALL_FULL.behind("a fault", -22, x -> Setups.readAll(x, "o105;n23;y01x"));
-        ALL_FULL.behind("a fault at the end", -20, x -> Setups.readAll(x, "o105;n23;y"));
-        ALL_FULL.behind("clauses that are refused", 0, x -> Setups.readAll(x, "p;o011;c0;c3;c9;n77;y00"));
+        NO_TEXT.behind("an empty text", -10, x -> x.read());
+        NO_TEXT.behind("a fault", -22, x -> Setups.readAll(x, "o105;n23;y01x"));
+        NO_TEXT.behind("a fault at the end", -20, x -> Setups.readAll(x, "o105;n23;y"));
+        NO_TEXT.behind("clauses that are refused", 0, x -> Setups.readAll(x, "p;o011;c0;c3;c9;n77;y00"));
     }
 
     private static void rings() {
@@ -268,7 +324,8 @@ public final class UnchangedTest {
         HEAVY.behind("settle()", STATE, x -> x.settle());
         NEW.behind("settle()", 0, x -> x.settle());
         NEW.behind("undo()", STATE, x -> x.undo());
-        ALL_FULL.behind("undo()", STATE, x -> x.undo());
+        NO_TEXT.behind("undo()", STATE, x -> x.undo());
+        NO_IMAGE.behind("undo()", STATE, x -> x.undo());
     }
 
     private static void toldByHand() {
@@ -332,20 +389,23 @@ public final class UnchangedTest {
     // ---- questions
 
     private static void askedOfDebts(Same same) {
-        for (int i = -1; i <= 6; i++) {
-            int person = i;
-            for (int j : new int[] {0, 3, 6}) {
-                same.asked("of", x -> x.of(person, j, 0) + x.of(person, j, 1) + x.of(person, j, 2) + x.of(person, j, 3));
-                same.asked("fits", x -> x.fits(person, j, 0) + x.fits(person, j, 1) + x.fits(person, j, 2));
-                same.asked("odds", x -> x.odds(person, j, 0) + x.odds(person, j, 1) + x.odds(person, j, 2));
+        for (int number = -1; number <= 6; number++) {
+            int k = number;
+            for (int w = -1; w <= 3; w++) {
+                int what = w;
+                for (int j : new int[] {0, 3, 6}) {
+                    same.asked("of", x -> x.of(k, j, what));
+                    same.asked("fits", x -> x.fits(k, j, what));
+                    same.asked("odds", x -> x.odds(k, j, what));
+                }
+                same.asked("debt", x -> x.debt(k, what));
+                same.asked("payment", x -> x.payment(k, what));
+                same.asked("willing", x -> x.willing(k, what));
+                same.asked("trail", x -> x.trail(k, what));
             }
-            same.asked("debt", x -> x.debt(person, 0) + x.debt(person, 2) + x.debt(person, 3));
-            same.asked("balance", x -> x.balance(person));
-            same.asked("without", x -> x.without(person));
-            same.asked("group", x -> x.group(person));
-            same.asked("payment", x -> x.payment(person, 0) + x.payment(person, 2) + x.payment(person, 3));
-            same.asked("willing", x -> x.willing(person, 0) + x.willing(person, 2) + x.willing(person, 3));
-            same.asked("trail", x -> x.trail(person, 0) + x.trail(person, 2) + x.trail(person, 3));
+            same.asked("balance", x -> x.balance(k));
+            same.asked("without", x -> x.without(k));
+            same.asked("group", x -> x.group(k));
         }
     }
 
