@@ -456,6 +456,8 @@ public final class EdgesOfGuessesTest {
         DebtRings none = Setups.people(2);
         none.book(0, 1, 5);
         due.is("no payments, one told", none.looked(), 0);
+        due.sentence(0, "LOOKED at: the number (from 0) of the first of these rows that isn't among PAYMENTS "
+            + "(-5: none)");
         for (int wrong = 0; wrong < 8; wrong++) {
             DebtRings x = Setups.owing(4, 0, 1, 5, 2, 3, 999);
             for (int k = 0; k < 8; k++) {

@@ -12,6 +12,8 @@ public final class EdgesOfPaymentsTest {
         leastBits();
         leastBitsOfTheNext();
         toldInThisOrder();
+        setsOfNothing();
+        groupByGroup();
         leastPays();
         lesserIsPaid();
         fewest();
@@ -118,6 +120,29 @@ public final class EdgesOfPaymentsTest {
         due.sentence(0, "(They are told in this order.)");
         Setups.groupsAre(due, Setups.owing(6, 0, 5, 3, 1, 4, 4, 2, 3, 5), 33, 18, 12);
         Setups.groupsAre(due, Setups.owing(6, 0, 5, 3, 1, 2, 4), 33, 6);
+    }
+
+    private static void setsOfNothing() {
+        due.sentence(0, "A GROUP: a set of OPEN PEOPLE whose BALANCES are 0 together");
+        // Who is even is in none, though what is left would be 0 together with any of them.
+        Setups.groupsAre(due, Setups.owing(6, 0, 1, 4, 1, 3, 4, 2, 5, 6, 5, 2, 6), 9);
+        // -999 of five each, and one short of it: they are one.
+        Setups.groupsAre(due, Setups.owing(6, 0, 5, 999, 1, 5, 999, 2, 5, 999, 3, 5, 999, 4, 5, 998), 63);
+        // -4 4 -6 6, and one more from 0 to 3: -5 4 -6 7, no two of which are 0 together.
+        Setups.groupsAre(due, Setups.owing(4, 0, 1, 4, 2, 3, 6), 3, 12);
+        Setups.groupsAre(due, Setups.owing(4, 0, 1, 4, 2, 3, 6, 0, 3, 1), 15);
+    }
+
+    private static void groupByGroup() {
+        due.sentence(0, "PAYMENTS: GROUP by GROUP, as long as one in it has a BALANCE left below 0");
+        Setups.paymentsAre(due, Setups.people(6));
+        Setups.paymentsAre(due, Setups.allOwing(5));
+        // {0, 5}, {1, 4}, {2, 3}: told in the order of groups, whoever pays.
+        Setups.paymentsAre(due, Setups.owing(6, 2, 3, 1, 4, 1, 2, 5, 0, 3),
+            new int[] {5, 0, 3}, new int[] {4, 1, 2}, new int[] {2, 3, 1});
+        // {0, 1, 5} with two payments, then {2, 3}.
+        Setups.paymentsAre(due, Setups.owing(6, 2, 3, 9, 0, 5, 1, 1, 5, 2),
+            new int[] {0, 5, 1}, new int[] {1, 5, 2}, new int[] {2, 3, 9});
     }
 
     private static void leastPays() {

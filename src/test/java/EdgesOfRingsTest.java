@@ -16,7 +16,9 @@ public final class EdgesOfRingsTest {
         ruleDeep();
         ruleAgreed();
         ofSeveralTheFirst();
+        leastFromEach();
         noCutWithoutRing();
+        trailAsTheyCame();
         trailOfForty();
         cutNumbers();
         cutTillThereIsNone();
@@ -167,6 +169,38 @@ public final class EdgesOfRingsTest {
         Setups.ringIs(due, x, 2, 9, 0, 1);
         due.is("2 of 9 went ahead of 3 of 6", x.cut(2, 1), 1);
         Setups.ringIs(due, x, 2, 6, 2, 3, 4);
+    }
+
+    private static void leastFromEach() {
+        due.sentence(0, "A CUT by a RULE takes one RING, and LEAST from each of its DEBTS");
+        DebtRings x = Setups.owing(4, 2, 0, 999, 0, 1, 5, 3, 0, 7, 1, 2, 6, 1, 3, 8);
+        due.is("0 1 2", x.cut(0, 1), 1);
+        Setups.debtsAre(due, x, new int[] {2, 0, 994}, new int[] {3, 0, 7}, new int[] {1, 2, 1}, new int[] {1, 3, 8});
+        for (int rule = 0; rule <= 3; rule++) {
+            DebtRings six = Setups.owing(6, 0, 1, 4, 1, 2, 4, 2, 3, 4, 3, 4, 4, 4, 5, 4, 5, 0, 4);
+            due.is("six alike", six.cut(rule, 40), 1);
+            Setups.debtsAre(due, six);
+            DebtRings pair = Setups.owing(3, 1, 2, 2, 2, 1, 1, 0, 1, 9);
+            due.is("two", pair.cut(rule, 40), 1);
+            Setups.debtsAre(due, pair, new int[] {1, 2, 1}, new int[] {0, 1, 9});
+        }
+    }
+
+    private static void trailAsTheyCame() {
+        due.sentence(0, "THE TRAIL: all CUTS, as they came: RULE, how many PEOPLE, LEAST");
+        DebtRings x = Setups.owing(6, 0, 1, 2, 1, 0, 2, 2, 3, 4, 3, 4, 4, 4, 2, 4, 5, 0, 999);
+        x.cut(3, 1);
+        x.cut(1, 0);
+        x.cut(1, 40);
+        Setups.oweAll(x, 0, 5, 999);
+        x.cut(2, 40);
+        Setups.readAll(x, "o011;o101;c0");
+        int[] rows = {3, 2, 2, 1, 3, 4, 2, 2, 999, 0, 2, 1};
+        due.is("told 3", x.told(3), 4);
+        for (int r = 0; r < rows.length; r++) {
+            due.is("trail " + r / 3 + " " + r % 3, x.trail(r / 3, r % 3), rows[r]);
+        }
+        due.is("trail 4", x.trail(4, 0), NONE);
     }
 
     private static void noCutWithoutRing() {

@@ -8,6 +8,7 @@ public final class EdgesOfTapesTest {
     private static final Due due = new Due("EdgesOfTapesTest");
 
     public static void main(String[] args) {
+        hostRefusals();
         sixTapes();
         rowsOfSorts();
         codesOfPayments();
@@ -56,6 +57,19 @@ public final class EdgesOfTapesTest {
         }
         due.is("peek behind the last", x.peek(tape, items.length), NO);
         due.is("peek ahead of the first", x.peek(tape, -1), NO);
+    }
+
+    private static void hostRefusals() {
+        due.sentence(0, "The host's refusals: NOTHING (-11): nothing is there; CAST (-12): another sort; "
+            + "PLACE (-13): no such place; SIZE (-14): a size below 0");
+        due.is("nothing is there", new DebtRings().item(0, 0, 1), -11);
+        DebtRings x = row(0, INTS, 7);
+        putRow(x, 1, SHORTS, 7);
+        due.is("another sort", x.shift(0, 0, 1, 0, 1), -12);
+        due.is("another sort", x.judge(0, 0), -12);
+        due.is("no such place", x.item(0, 1, 1), -13);
+        due.is("a size below 0", x.tape(0, INTS, -1), -14);
+        due.is("a size of 0", x.tape(0, INTS, 0), 1);
     }
 
     private static void sixTapes() {
